@@ -377,21 +377,14 @@ public final class SaidRecord {
     }
 
     public int court(int fact, int n, int what) {
-        if (!isKnown(n) || !facts.isOfKind(fact, COURT, n)) {
+        if (!isKnown(n) || !facts.isOfKind(fact, COURT, n) || !isBelow(what, 3)) {
             return NONE;
         }
-        int line = facts.subject[fact];
-        int day = facts.day[fact];
-        switch (what) {
-            case 0:
-                return press.wordShown(line, day, fact);
-            case 1:
-                return press.keptBy(line, day, fact);
-            case 2:
-                return press.wordShown(line, day, n);
-            default:
-                return NONE;
+        press.print(facts.subject[fact], facts.day[fact], what == 2 ? n : fact);
+        if (what == 1) {
+            return press.keptFromCourt(facts.day[fact]);
         }
+        return press.struck ? 0 : press.word;
     }
 
     public int take(int w, int word) {
@@ -715,7 +708,8 @@ public final class SaidRecord {
 
     /**
      * Reads a text into the rule book, token by token. A token is first asked whether a text goes
-     * on with it, then whether there is room for it: so the first fault by place is found first.
+     * on with it, then whether there is room for it: so the first fault by place is found first,
+     * and behind it nothing is accepted any more.
      */
     private static final class Parser {
         final RuleBook book;
@@ -723,6 +717,9 @@ public final class SaidRecord {
         final int[] waiting = new int[STACK];
         int waitingSize;
         int next;
+        int token;
+        int tokenAt;
+        long tokenValue;
         int fault;
         int faultAt = NONE;
 
@@ -731,15 +728,25 @@ public final class SaidRecord {
         }
 
         int parse(Tape tape) {
+            int day = 0;
+            int dayAt = NONE;
             tokens.cut(tape);
-            next = 0;
+            book.openText();
             fault = 0;
             faultAt = NONE;
-            book.openText();
-            int day = parseFrom();
-            int dayAt = fromDayPlace();
-            if (parseRules() && day >= DAYS) {
-                refuse(WRONG, dayAt);
+            moveTo(0);
+            if (token == FROM && accept(FROM)) {
+                day = (int) tokenValue;
+                dayAt = tokenAt;
+                accept(INT);
+                accept(SEMICOLON);
+            }
+            for (int i = 0; i <= RULES_OF_A_TEXT && fault == 0 && token != END; i++) {
+                parseRule(i);
+            }
+            if (fault == 0 && day >= DAYS) {
+                fault = WRONG;
+                faultAt = dayAt;
             }
             if (fault == 0) {
                 book.closeText(day);
@@ -747,147 +754,105 @@ public final class SaidRecord {
             return fault;
         }
 
-        /** The day of the text; what is wrong with its tokens stands in fault. */
-        private int parseFrom() {
-            if (!sees(FROM)) {
-                return 0;
-            }
-            accept(FROM);
-            int day = (int) value();
-            if (accept(INT)) {
-                accept(SEMICOLON);
-            }
-            return day;
-        }
-
-        private int fromDayPlace() {
-            return tokens.size > 1 ? tokens.start[1] : NONE;
-        }
-
-        private boolean parseRules() {
-            for (int number = 0; fault == 0 && !sees(END); number++) {
-                if (number > RULES_OF_A_TEXT || !parseRule(number)) {
-                    return false;
-                }
-            }
-            return fault == 0;
-        }
-
-        private boolean parseRule(int number) {
-            int sort = kind() - FIRST_RULE_WORD;
+        private void parseRule(int number) {
+            int sort = token - FIRST_RULE_WORD;
             if (sort < RIGHT_RULE || sort > STRIKE_RULE) {
-                return refuse(SYNTAX, start());
+                refuse(SYNTAX);
+                return;
             }
             if (number >= RULES_OF_A_TEXT) {
-                return refuse(ROOM, start());
+                refuse(ROOM);
+                return;
             }
-            if (!accept(kind())) {
-                return false;
+            accept(token);
+            book.openRule(sort, tokenValue, number);
+            accept(NAME);
+            if (sort == RIGHT_RULE) {
+                accept(TO);
+                parseExpression();
+                book.beginCondition();
             }
-            book.openRule(sort, value(), number);
-            return accept(NAME) && parseBody(sort) && accept(SEMICOLON) && book.closeRule();
+            if (sort != STRIKE_RULE && (sort != RIGHT_RULE || token == IF)) {
+                accept(IF);
+                parseCondition();
+            }
+            if (accept(SEMICOLON)) {
+                book.closeRule();
+            }
         }
 
-        private boolean parseBody(int sort) {
-            if (sort == STRIKE_RULE) {
-                return true;
-            }
-            if (sort != RIGHT_RULE) {
-                return accept(IF) && parseCondition();
-            }
-            if (!accept(TO) || !parseExpression()) {
-                return false;
-            }
-            book.beginCondition();
-            return !sees(IF) || accept(IF) && parseCondition();
-        }
-
-        private boolean parseCondition() {
+        private void parseCondition() {
             boolean more = true;
-            while (more && next <= TOKENS_OF_A_TEXT) {
-                if (!parseLiteral()) {
-                    return false;
+            while (more && fault == 0 && next <= TOKENS_OF_A_TEXT) {
+                int negated = parseNots() % 2;
+                parseExpression();
+                int comparison = token;
+                if (comparison < EQUAL || comparison > AT_MOST) {
+                    refuse(SYNTAX);
                 }
-                if (sees(OR)) {
+                accept(comparison);
+                parseExpression();
+                book.emit(COMPARISON + 2 * comparison + negated);
+                if (token == OR) {
                     book.emit(ALTERNATIVE);
-                    more = accept(OR);
-                } else {
-                    more = sees(AND) && accept(AND);
                 }
+                more = (token == AND || token == OR) && accept(token);
             }
-            return fault == 0;
         }
 
-        private boolean parseLiteral() {
-            boolean negated = false;
-            while (sees(NOT) && next <= TOKENS_OF_A_TEXT) {
-                if (!accept(NOT)) {
-                    return false;
-                }
-                negated = !negated;
+        private int parseNots() {
+            int many = 0;
+            while (many <= TOKENS_OF_A_TEXT && token == NOT && accept(NOT)) {
+                many++;
             }
-            if (!parseExpression()) {
-                return false;
-            }
-            int comparison = kind();
-            if (comparison < EQUAL || comparison > AT_MOST) {
-                return refuse(SYNTAX, start());
-            }
-            if (!accept(comparison) || !parseExpression()) {
-                return false;
-            }
-            book.emit(COMPARISON + 2 * comparison + (negated ? 1 : 0));
-            return true;
+            return many;
         }
 
-        /** Operators wait until what binds as tight has come: no call goes deeper for a (. */
-        private boolean parseExpression() {
+        /** Operators wait until all that binds as tight has come: no call goes deeper for a (. */
+        private void parseExpression() {
             int open = 0;
+            boolean more = true;
             waitingSize = 0;
-            while (fault == 0 && next <= TOKENS_OF_A_TEXT) {
+            while (more && fault == 0 && next <= TOKENS_OF_A_TEXT) {
                 open = parseOpenings(open);
-                if (fault != 0 || !parseOperand()) {
-                    return false;
-                }
+                parseOperand();
                 open = parseClosings(open);
-                int operator = kind();
-                if (operator < PLUS || operator > SLASH) {
-                    emitWaiting(PLUS);
-                    return open == 0 || refuse(SYNTAX, start());
+                int operator = token;
+                more = operator >= PLUS && operator <= SLASH;
+                emitWaiting(more ? operator : PLUS);
+                if (more) {
+                    hold(operator);
+                    accept(operator);
                 }
-                emitWaiting(operator);
-                hold(operator);
-                accept(operator);
             }
-            return false;
+            if (open > 0) {
+                refuse(SYNTAX);
+            }
         }
 
         private int parseOpenings(int open) {
             int depth = open;
-            while (depth < NESTING && sees(OPEN) && accept(OPEN)) {
+            while (depth < NESTING && token == OPEN && accept(OPEN)) {
                 hold(OPEN);
                 depth++;
             }
-            if (sees(OPEN)) {
-                refuse(ROOM, start());
+            if (token == OPEN) {
+                refuse(ROOM);
             }
             return depth;
         }
 
-        private boolean parseOperand() {
-            int token = kind();
+        private void parseOperand() {
             boolean variable = token >= FIRST_VARIABLE && token < FIRST_VARIABLE + VARIABLES;
-            int code = variable ? VARIABLE + token - FIRST_VARIABLE : (int) value();
-            if (!accept(variable ? token : INT)) {
-                return false;
+            int entry = variable ? VARIABLE + token - FIRST_VARIABLE : (int) tokenValue;
+            if (accept(variable ? token : INT)) {
+                book.emit(entry);
             }
-            book.emit(code);
-            return true;
         }
 
         private int parseClosings(int open) {
             int depth = open;
-            while (depth > 0 && sees(CLOSE) && accept(CLOSE)) {
+            while (depth > 0 && token == CLOSE && accept(CLOSE)) {
                 emitWaiting(PLUS);
                 waitingSize--;
                 depth--;
@@ -915,40 +880,32 @@ public final class SaidRecord {
             return waitingOne == STAR || waitingOne == SLASH || waitingOne != OPEN && weak;
         }
 
-        private int kind() {
-            return next >= 0 && next < tokens.size ? tokens.kind[next] : END;
-        }
-
-        private int start() {
-            return next >= 0 && next < tokens.size ? tokens.start[next] : NONE;
-        }
-
-        private long value() {
-            return next >= 0 && next < tokens.size ? tokens.value[next] : 0;
-        }
-
-        private boolean sees(int token) {
-            return kind() == token;
-        }
-
-        private boolean accept(int token) {
-            if (!sees(token)) {
-                return refuse(SYNTAX, start());
+        private boolean accept(int wanted) {
+            if (token != wanted) {
+                refuse(SYNTAX);
+            } else if (next >= TOKENS_OF_A_TEXT) {
+                refuse(ROOM);
             }
-            if (next >= TOKENS_OF_A_TEXT) {
-                return refuse(ROOM, start());
+            if (fault == 0) {
+                moveTo(next + 1);
             }
-            next++;
-            return true;
+            return fault == 0;
         }
 
-        /** Only the first fault counts, since tokens are asked in their order. */
-        private boolean refuse(int number, int place) {
+        private void refuse(int number) {
             if (fault == 0) {
                 fault = number;
-                faultAt = place;
+                faultAt = tokenAt;
             }
-            return false;
+        }
+
+        private void moveTo(int number) {
+            next = number;
+            if (number >= 0 && number < tokens.size) {
+                token = tokens.kind[number];
+                tokenAt = tokens.start[number];
+                tokenValue = tokens.value[number];
+            }
         }
     }
 
@@ -964,7 +921,7 @@ public final class SaidRecord {
         final int[] codeEnd = new int[ALL_RULES];
         final int[] textDay = new int[TEXTS];
         final int[] textEnd = new int[TEXTS];
-        /** What is in force once the first texts by their days have come: a list for each number. */
+        /** For each number of texts that have come, by their days, what is in force then. */
         final int[] inForce = new int[(TEXTS + 1) * ALL_RULES];
         final int[] inForceSize = new int[TEXTS + 1];
         final Reckoner reckoner = new Reckoner();
@@ -1003,13 +960,11 @@ public final class SaidRecord {
             }
         }
 
-        boolean closeRule() {
-            if (ruleSize < 0 || ruleSize >= ALL_RULES) {
-                return false;
+        void closeRule() {
+            if (ruleSize >= 0 && ruleSize < ALL_RULES) {
+                codeEnd[ruleSize] = codeSize;
+                ruleSize++;
             }
-            codeEnd[ruleSize] = codeSize;
-            ruleSize++;
-            return true;
         }
 
         void closeText(int day) {
@@ -1100,7 +1055,7 @@ public final class SaidRecord {
             for (int k = 0; k < inForceSize[level]; k++) {
                 int row = inForce[level * ALL_RULES + k];
                 if (sort[row] == sortOfRule
-                        && reckoner.holds(code, conditionAt[row], codeEnd[row], variables)) {
+                        && reckoner.work(code, conditionAt[row], codeEnd[row], variables)) {
                     return k;
                 }
             }
@@ -1113,7 +1068,8 @@ public final class SaidRecord {
             if (row == NONE) {
                 return 0;
             }
-            return reckoner.work(code, codeAt[row], conditionAt[row], variables);
+            reckoner.work(code, codeAt[row], conditionAt[row], variables);
+            return reckoner.result();
         }
     }
 
@@ -1123,25 +1079,21 @@ public final class SaidRecord {
         int height;
         boolean dividedByZero;
 
-        int work(int[] code, int from, int to, int[] variables) {
-            begin();
-            for (int i = from; i < to && i < code.length; i++) {
-                step(code[i], variables);
-            }
-            int value = pop();
-            return dividedByZero ? 0 : value;
-        }
-
-        /** A rule without a condition always holds. */
-        boolean holds(int[] code, int from, int to, int[] variables) {
+        /** Whether a condition holds: without any, it does. */
+        boolean work(int[] code, int from, int to, int[] variables) {
             boolean all = true;
-            begin();
-            for (int i = from; i < to && i < code.length; i++) {
+            height = 0;
+            dividedByZero = false;
+            for (int i = Math.max(0, from); i < to && i < code.length; i++) {
                 int entry = code[i];
-                if (entry < COMPARISON) {
-                    step(entry, variables);
+                if (entry < VARIABLE) {
+                    push(entry);
+                } else if (entry < ARITHMETIC) {
+                    push(entry - VARIABLE < variables.length ? variables[entry - VARIABLE] : 0);
+                } else if (entry < COMPARISON) {
+                    calculate(entry - ARITHMETIC);
                 } else if (entry < ALTERNATIVE) {
-                    all = literalHolds(entry - COMPARISON) && all;
+                    all = compare(entry - COMPARISON) && all;
                 } else if (all) {
                     return true;
                 } else {
@@ -1151,69 +1103,9 @@ public final class SaidRecord {
             return all;
         }
 
-        private void begin() {
-            height = 0;
-            dividedByZero = false;
-        }
-
-        private void step(int entry, int[] variables) {
-            if (entry >= ARITHMETIC) {
-                calculate(entry - ARITHMETIC);
-            } else if (entry >= VARIABLE) {
-                int variable = entry - VARIABLE;
-                push(variable < variables.length ? variables[variable] : 0);
-            } else {
-                push(entry);
-            }
-        }
-
-        private void calculate(int operator) {
-            int right = pop();
-            int left = pop();
-            switch (operator) {
-                case PLUS:
-                    push(left + right);
-                    break;
-                case MINUS:
-                    push(left - right);
-                    break;
-                case STAR:
-                    push(left * right);
-                    break;
-                default:
-                    push(divide(left, right));
-                    break;
-            }
-        }
-
-        private int divide(int left, int right) {
-            if (right == 0) {
-                dividedByZero = true;
-                return 0;
-            }
-            return left / right;
-        }
-
-        private boolean literalHolds(int coded) {
-            boolean negated = coded % 2 == 1;
-            int right = pop();
-            int left = pop();
-            boolean held = !dividedByZero && compares(coded / 2, left, right);
-            begin();
-            return held != negated;
-        }
-
-        private static boolean compares(int comparison, int left, int right) {
-            switch (comparison) {
-                case EQUAL:
-                    return left == right;
-                case UNEQUAL:
-                    return left != right;
-                case LESS:
-                    return left < right;
-                default:
-                    return left <= right;
-            }
+        /** What the code that was worked out last, an expression, comes to. */
+        int result() {
+            return height == 1 && !dividedByZero ? stack[0] : 0;
         }
 
         private void push(int value) {
@@ -1223,12 +1115,40 @@ public final class SaidRecord {
             }
         }
 
-        private int pop() {
-            if (height <= 0 || height > stack.length) {
-                return 0;
+        private void calculate(int operator) {
+            if (height < 2 || height > stack.length) {
+                return;
             }
             height--;
-            return stack[height];
+            int left = stack[height - 1];
+            int right = stack[height];
+            int value = 0;
+            if (operator == PLUS) {
+                value = left + right;
+            } else if (operator == MINUS) {
+                value = left - right;
+            } else if (operator == STAR) {
+                value = left * right;
+            } else if (right != 0) {
+                value = left / right;
+            } else {
+                dividedByZero = true;
+            }
+            stack[height - 1] = value;
+        }
+
+        private boolean compare(int coded) {
+            int order = height == 2 ? Integer.compare(stack[0], stack[1]) : 0;
+            int comparison = coded / 2;
+            boolean held = comparison == EQUAL && order == 0
+                    || comparison == UNEQUAL && order != 0
+                    || comparison == LESS && order < 0
+                    || comparison == AT_MOST && order <= 0;
+            boolean holds = held && !dividedByZero;
+            boolean negated = coded % 2 == 1;
+            height = 0;
+            dividedByZero = false;
+            return holds != negated;
         }
     }
 
@@ -1426,22 +1346,14 @@ public final class SaidRecord {
             return fate(mend, n);
         }
 
-        /** The word that a court is shown, as known by n. */
-        int wordShown(int line, int d, int n) {
-            mendAll(line, d, n, n);
-            return facts.isStruckBy(line, d, n) ? 0 : word;
-        }
-
-        int keptBy(int line, int d, int n) {
-            mendAll(line, d, n, n);
-            setVariables(d - facts.day[line], 0);
+        /** By which rule the line just printed on a day is kept from a court on that day. */
+        int keptFromCourt(int d) {
             return book.firstThatHolds(COURT_RULE, d, variables);
         }
 
         /** Puts a line right, then lets the mends of it that are told before the end. */
         private void mendAll(int line, int d, int n, int end) {
             putRight(line, n);
-            lets = 0;
             for (int f = line + 1; f < end; f++) {
                 if (facts.isMendBy(f, line, d) && fate(f, n) == LET) {
                     word = facts.word[f];

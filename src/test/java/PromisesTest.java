@@ -26,6 +26,7 @@ public final class PromisesTest {
         syntax();
         room();
         wrongDay();
+        faultsLeaveNothing();
         place();
         line();
         reads();
@@ -279,6 +280,20 @@ public final class PromisesTest {
         fault("  from  100;strike a;", 5, 8);
         fault("from 100;strike", 1, 15);
         fault("from 100;" + "strike a;".repeat(25), 2, 9 + 9 * 24);
+    }
+
+    /** Long texts with a fault at their end take no room from those that come behind them. */
+    private static void faultsLeaveNothing() {
+        CHECK.part("4 read, a fault changes nothing");
+        SaidRecord x = new SaidRecord();
+        for (int i = 0; i < 8; i++) {
+            due("a long one", Check.read(x, "right a to 1" + "+1".repeat(196)), 1);
+        }
+        due("a whole one", Check.read(x, "right a to 1" + "+1".repeat(196) + ";"), 0);
+        x.line(0, 0, 0, 0, 5);
+        due("its value", x.printed(0, 0, 1, 0), 197);
+        due("rules(0)", x.rules(0), 1);
+        due("rule(0, 0, 1)", x.rule(0, 0, 1), 0);
     }
 
     private static void place() {
