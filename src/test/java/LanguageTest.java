@@ -32,7 +32,8 @@ public final class LanguageTest {
     /** What no line of the program may have: rules 2, 3, 4, 6, 10 and 13. */
     private static final String[] FORBIDDEN = {"\\bthrow\\b", "\\bthrows\\b", "\\btry\\b",
             "\\bcatch\\b", "\\bsynchronized\\b", "\\bassert\\b", "->", "::", "Exact\\b",
-            "\\bimport\\b", "\\bpackage\\b", "\\bhashCode\\b", "\\bequals\\b", "\\btoString\\b", "\\bThread\\b",
+            "\\bimport\\b", "\\bpackage\\b", "\\bhashCode\\b",
+            "\\bequals\\b", "\\btoString\\b", "\\bThread\\b",
             "\\bRandom\\b", "System\\.(?!arraycopy\\b)", "Math\\.(?!(max|min|abs)\\()",
             "\"\\s*\\+", "\\+\\s*\"", "\\bprotected\\b", "\\bnew\\s+[A-Za-z]+\\([^)]*\\)\\s*\\{"};
 

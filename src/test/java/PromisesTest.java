@@ -294,6 +294,13 @@ public final class PromisesTest {
         due("its value", x.printed(0, 0, 1, 0), 197);
         due("rules(0)", x.rules(0), 1);
         due("rule(0, 0, 1)", x.rule(0, 0, 1), 0);
+        SaidRecord y = new SaidRecord();
+        for (int i = 0; i < 12; i++) {
+            due("parentheses that stay open", Check.read(y, "right a to 1+1*((((((2-1"), 1);
+        }
+        due("a whole one", Check.read(y, "right a to (1+2)*(4+(5-1)*2);"), 0);
+        y.line(0, 0, 0, 0, 5);
+        due("its value", y.printed(0, 0, 1, 0), 36);
     }
 
     private static void place() {

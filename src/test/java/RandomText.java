@@ -8,8 +8,8 @@ final class RandomText {
     private static final String[] NAMES =
             {"a", "b", "c", "d", "e", "f", "abcdefgh", "rights", "i"};
     private static final String[] PIECES = {"(", ")", ";", "<", "<=", "=", "==", "!", "!=", "not",
-            "and", "or", "if", "to", "from", "strike", "bar", "word", "1", "99999", "abcdefghi", " ",
-            "+", "*", "\u00e9", "A", ".", "\t", "\f", "lines"};
+            "and", "or", "if", "to", "from", "strike", "bar", "word", "1", "99999", "abcdefghi",
+            " ", "+", "*", "\u00e9", "A", ".", "\t", "\f", "lines"};
     private static final int BYTES = 2000;
 
     private final Random random;
