@@ -783,7 +783,7 @@ public final class SaidRecord {
 
         private void parseCondition() {
             boolean more = true;
-            while (more && fault == 0 && next <= TOKENS_OF_A_TEXT) {
+            for (int i = 0; more && fault == 0 && i <= TOKENS_OF_A_TEXT; i++) {
                 int negated = parseNots() % 2;
                 parseExpression();
                 int comparison = token;
@@ -813,7 +813,7 @@ public final class SaidRecord {
             int open = 0;
             boolean more = true;
             waitingSize = 0;
-            while (more && fault == 0 && next <= TOKENS_OF_A_TEXT) {
+            for (int i = 0; more && fault == 0 && i <= TOKENS_OF_A_TEXT; i++) {
                 open = parseOpenings(open);
                 parseOperand();
                 open = parseClosings(open);
