@@ -98,8 +98,8 @@ final class Terms1Test {
         x.office(1, 2);
         x.sits(1, 1, 0);
         x.paper(0, 1, 2);
-        x.rename(1, 2, 0);
-        x.rename(2, 3, 0);
+        x.rename(2, 1, 0);
+        x.rename(3, 2, 0);
         x.vote(0, 0, 0, 0);
         x.vote(3, 0, 1, 1);
         x.fact(3, 3, 8, 0);

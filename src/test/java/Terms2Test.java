@@ -118,6 +118,22 @@ final class Terms2Test {
         }
     }
 
+    /** For each letter names of it alone, of one, two and eight. */
+    static void terms2_namesOfOneLetterManyTimes() {
+        SaidRecord x = new SaidRecord();
+        StringBuilder text = new StringBuilder();
+        for (int i = 0; i < 78; i++) {
+            int letters = i % 3 == 2 ? 8 : 1 + i % 3;
+            String name = String.valueOf((char) ('a' + i / 3)).repeat(letters);
+            text.append("bar ").append(name).append(" if 1<2;");
+            if (i % 24 == 23 || i == 77) {
+                due("a text", Check.read(x, text.toString()), 0);
+                text.setLength(0);
+            }
+        }
+        due("all are others", x.rules(0), 78);
+    }
+
     static void terms2_intsOf4Digits() {
         Named.whole("right a to 0;");
         Named.whole("right a to 9999;");

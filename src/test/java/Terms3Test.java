@@ -5,6 +5,7 @@ import java.util.List;
  * a line as printed, the variables, the print, courts.
  */
 final class Terms3Test {
+    private static final int NONE = SaidRecord.NONE;
     /** The least int there is: 2 to the 31st, which wraps. */
     private static final String LEAST = "8192*8192*32";
 
@@ -148,6 +149,24 @@ final class Terms3Test {
         }
         due("printed on 99", x.printed(0, 99, 6, 0), 7);
         due("let", x.printed(0, 99, 6, 4), 2);
+    }
+
+    /** What is told behind a mend counts for it too, if it is known by n. */
+    static void terms3_mendsByWhatIsKnownByN() {
+        SaidRecord x = Named.with("mend m if heard==5 and office==3;bar b if lines==2;");
+        x.line(5, 0, 0, 4, 1);
+        x.fact(0, 0, 2, 6);
+        x.fact(1, 0, 5, 0);
+        x.sits(6, 4, 5);
+        x.office(6, 3);
+        x.line(5, 0, 0, 4, 1);
+        x.fact(2, 0, 0, 6);
+        x.fact(1, 0, 6, 0);
+        int[] want = {NONE, NONE, 3, 3, 3, 0, 4, 2, 2};
+        for (int n = 0; n < want.length; n++) {
+            due("known by " + n, x.mended(1, n), want[n]);
+            due("let by " + n, x.printed(0, 6, n, 4), n == 0 ? NONE : n == 5 ? 1 : 0);
+        }
     }
 
     static void terms3_someMendRuleAndNoBarRule() {

@@ -48,6 +48,10 @@ final class Terms4Test {
         due("the first of SECOND, not its last", x.join(), 0);
         House.takeAll(x, new int[] {1, 2, 3}, new int[] {3}, new int[] {});
         due("one", x.join(), 1);
+        House.takeAll(x, new int[] {1, 2, 3}, new int[] {1, 2}, new int[] {});
+        due("no more than SECOND has", x.join(), 0);
+        House.takeAll(x, new int[] {2, 3}, new int[] {1, 2, 3}, new int[] {});
+        due("no more than FIRST has", x.join(), 0);
     }
 
     static void terms4_theTapeSaysWhichOfTwo() {
