@@ -77,7 +77,8 @@ public final class LanguageTest {
             StringBuilder text = new StringBuilder(method.getReturnType() + " " + method.getName());
             String types = Arrays.toString(method.getParameterTypes()).replaceAll("[\\[\\] ]", "");
             shown.add(text.append('(').append(types).append(')').toString());
-            CHECK.due(method + " is public", Modifier.isPublic(method.getModifiers()), true);
+            CHECK.due(method + " is public and no more", method.getModifiers(), Modifier.PUBLIC);
+            CHECK.due(method + " declares to throw", method.getExceptionTypes().length, 0);
         }
         Set<String> due = new TreeSet<>(Arrays.asList(FACE));
         CHECK.due("methods " + shown, shown.equals(due), true);
@@ -88,13 +89,22 @@ public final class LanguageTest {
         }
         hiddenNames.retainAll(publicNames);
         CHECK.due("hidden methods with public names " + hiddenNames, hiddenNames.size(), 0);
+        List<String> constants = new ArrayList<>();
         for (Field field : SaidRecord.class.getDeclaredFields()) {
             CHECK.due(field.getName() + " is private, but for NONE",
                     Modifier.isPrivate(field.getModifiers()), !field.getName().equals("NONE"));
+            if (field.getName().equals("NONE")) {
+                constants.add(Modifier.toString(field.getModifiers()) + " " + field.getType());
+            }
         }
+        CHECK.due("constants " + constants,
+                constants.equals(Arrays.asList("public static final int")), true);
+        CHECK.due("above it there is Object alone", SaidRecord.class.getSuperclass() == Object.class
+                && SaidRecord.class.getInterfaces().length == 0, true);
         Constructor<?>[] constructors = SaidRecord.class.getDeclaredConstructors();
         CHECK.due("constructors", constructors.length, 1);
         CHECK.due("its parameters", constructors[0].getParameterCount(), 0);
+        CHECK.due("it is public", Modifier.isPublic(constructors[0].getModifiers()), true);
     }
 
     private static void shape(Class<?> one) {
