@@ -93,6 +93,25 @@ final class Terms2Test {
         Named.fault("bar a if 1! =1;", 1, 10);
     }
 
+    /** A longer one is none at its first byte, whatever an earlier text had in its place. */
+    private static void longerBehind(String earlier, String longer, int place) {
+        SaidRecord x = Named.with(earlier);
+        due("read of " + longer, Check.read(x, longer), 1);
+        due("place of " + longer + " behind " + earlier, x.place(), place);
+        due("texts", x.count(1), 1);
+    }
+
+    static void terms2_aLongerOneIsNoToken() {
+        Named.fault("abcdefghi", 1, 0);
+        Named.fault("strikestrike a;", 1, 0);
+        Named.fault("12345", 1, 0);
+        longerBehind("strike abcdefgh;", "strike abcdefghi;", 7);
+        longerBehind("strike a;strike b;", "strike a;strikestrike b;", 9);
+        longerBehind("from 5;", "from 00005;", 5);
+        longerBehind("bar a if 1<1234;", "bar a if 1<12345;", 11);
+        longerBehind("bar a if word<1;", "bar a if minuteminute<1;", 9);
+    }
+
     static void terms2_namesAreNoneOfTheWordsInQuotes() {
         for (String word : QUOTED) {
             Named.fault("strike " + word + ";", 1, 7);
