@@ -31,7 +31,7 @@ public final class RoomTest {
         CHECK.end();
     }
 
-    /** Rules that all must be tried, 180 facts, then names() and found() to the end. */
+    /** Rules that all must be tried, 180 facts, then found() to the end. */
     private static int run() {
         SaidRecord x = new SaidRecord();
         int calls = 0;
@@ -55,7 +55,8 @@ public final class RoomTest {
             calls += 3;
         }
         while (calls < 512) {
-            x.found(1 + calls % 50, 99, 180, 0);
+            int word = 1 + calls % 50;
+            CHECK.due("found() up to the 512th call", x.found(word, 99, 180, 0), 3 * (word - 1));
             calls++;
         }
         return calls;
